@@ -12,7 +12,8 @@ public final class CountsTest {
         OpeningsCabinet x = new OpeningsCabinet();
         Check.refuses("depth 0", IllegalArgumentException.class, () -> x.countMoves(0, true));
         Check.refuses("depth 4", IllegalArgumentException.class, () -> x.countMoves(4, false));
-        Check.refuses("depth -2147483648", IllegalArgumentException.class, () -> x.countMoves(Integer.MIN_VALUE, false));
+        Check.refuses("the least depth", IllegalArgumentException.class,
+                () -> x.countMoves(Integer.MIN_VALUE, false));
         x.put(4, 0);
         Check.refuses("no king", IllegalStateException.class, () -> x.countMoves(3, false));
         Check.refuses("no king, depth 4", IllegalArgumentException.class, () -> x.countMoves(4, false));

@@ -92,7 +92,7 @@ public final class ShelvesTest {
 
     private static void positions() {
         OpeningsCabinet x = library();
-        // The start, e4, e5, Nf3, Nc6; c5, Nf3; d4, d5; Nf3, Nc6, e4 (that one is new, as Black moved first), then e5 is known.
+        // The start, e4, e5, Nf3, Nc6; c5, Nf3; d4, d5; Nf3, Nc6, e4; the last one of the game 3 is known.
         Check.same("positions", x.positionCount(0), 12);
         Check.same("positions of the shelf 1", x.positionCount(1), 2);
         Check.same("positions of nothing", new OpeningsCabinet().positionCount(1), 0);

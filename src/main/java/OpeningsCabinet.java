@@ -53,7 +53,7 @@ public final class OpeningsCabinet {
 
     // ---- setting up
 
-    /** Takes a new, empty board and empties the shelves, the drill, the endings and the pattern; returns its squares. */
+    /** Takes a new board and empties all but the text and the output; returns the number of its squares. */
     public int newBoard(int files, int ranks) throws IllegalArgumentException {
         if (files < LEAST_SIDE || files > MOST_SIDE || ranks < LEAST_SIDE || ranks > MOST_SIDE) {
             throw new IllegalArgumentException("a board has 4 to 8 files and ranks");
@@ -675,7 +675,7 @@ public final class OpeningsCabinet {
 
     private void make(int code) {
         present.apply(code);
-        game.record(code, present);
+        game.addMove(code, present);
     }
 
     private int stateNow() {
@@ -1847,7 +1847,7 @@ public final class OpeningsCabinet {
             first.save(places, 0);
         }
 
-        void record(int code, Position behind) {
+        void addMove(int code, Position behind) {
             if (length >= 0 && length < moves.length) {
                 moves[length] = code;
                 length++;
@@ -2150,7 +2150,7 @@ public final class OpeningsCabinet {
         }
 
         private void note(int move, int game) {
-            if (move >= 0 && move < games.length && latest[move] != game) {
+            if (move >= 0 && move < games.length && move < latest.length && latest[move] != game) {
                 latest[move] = game;
                 games[move]++;
             }
