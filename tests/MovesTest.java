@@ -163,6 +163,9 @@ public final class MovesTest {
                 "Kd1 Kf1 Kd2 Ke2 Kf2 d6 dxe6 fxe6 f6");
         Check.same("an opened row behind", lastLetters("8/8/8/K1Pp3r/8/8/8/7k w - d6", "cxd6"),
                 "none");
+        // What stands behind the goal of a move that takes nothing in passing stays there.
+        Check.same("a knight keeps hiding the king", lastLetters("4k3/8/8/1n1pP3/KNP4r/8/8/8 w - d6", "cxb5"), "cxb5");
+        Check.same("a pawn keeps hiding the passing square", lastLetters("7k/8/2K5/3pP3/8/8/8/3r4 w - d6", "Kd6"), "Kd6");
     }
 
     private static void letters() {

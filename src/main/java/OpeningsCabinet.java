@@ -1355,12 +1355,12 @@ public final class OpeningsCabinet {
 
         /** The number of the move with these letters (without + and #), or NONE. */
         int numberOfWord(long word) {
-            for (int i = 0; i < size && i < words.length; i++) {
-                if (!isSpelled) {
+            if (!isSpelled) {
+                for (int i = 0; i < size && i < words.length; i++) {
                     words[i] = plainWord(i);
                 }
+                isSpelled = true;
             }
-            isSpelled = true;
             for (int i = 0; i < size && i < words.length; i++) {
                 if (words[i] == word) {
                     return i;
