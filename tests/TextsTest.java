@@ -162,6 +162,10 @@ public final class TextsTest {
         faulty("e4 (d4 (c4 (b4 (a4))))^)");
         faulty("e4 (d4 ^}");
         faulty("e4 (d4) 1. ^(c4)");
+        faulty("e4 (d4) (^)");
+        faulty("e4 (d4) (^{note} c4)");
+        faulty("e4 (d4) (^(c4) c4)");
+        faulty("e4 (d4 (c4) d5 (^) e5)");
     }
 
     /** + and # can be left out, but none can be added. */
@@ -177,6 +181,8 @@ public final class TextsTest {
         Check.same("mate told as check", fault(x, "f3 e5 g4 Qh4+"), 9);
         Check.same("a move behind mate", fault(x, "f3 e5 g4 Qh4# a3"), 14);
         Check.same("a result behind mate", fault(x, "f3 e5 g4 Qh4# 0-1"), -1);
+        Check.same("a variation", fault(x, "e4 (d4)"), -1);
+        Check.same("the variation of an earlier text is no part of the next one", fault(x, "e4 ()"), 4);
         OpeningsCabinet y = Check.at("1r2k3/P7/8/8/8/8/8/4K3 w - -");
         Check.same("a promotion with check", fault(y, "axb8=Q+"), -1);
         Check.same("a promotion with check not told", fault(y, "axb8=Q"), -1);

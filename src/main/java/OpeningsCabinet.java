@@ -872,23 +872,18 @@ public final class OpeningsCabinet {
             for (int i = 0; i < 4; i++) {
                 long ray = rays[square * 8 + first + i];
                 long blockers = ray & occupied;
-                if (blockers != 0) {
-                    int nearest;
-                    if (i < 2) {
-                        nearest = Long.bitCount((blockers & -blockers) - 1);
-                    } else {
-                        // Everything under the greatest square is filled up, so that the count tells its number.
-                        blockers |= blockers >>> 1;
-                        blockers |= blockers >>> 2;
-                        blockers |= blockers >>> 4;
-                        blockers |= blockers >>> 8;
-                        blockers |= blockers >>> 16;
-                        blockers |= blockers >>> 32;
-                        nearest = Long.bitCount(blockers) - 1;
-                    }
-                    if (nearest >= 0 && nearest < MOST_SQUARES) {
-                        ray &= ~rays[nearest * 8 + first + i];
-                    }
+                if (i < 2) {
+                    // Everything up to the least blocker; without one everything.
+                    ray &= blockers ^ blockers - 1;
+                } else {
+                    // Everything from the greatest blocker on: what lies under it is filled up and left out.
+                    blockers |= blockers >>> 1;
+                    blockers |= blockers >>> 2;
+                    blockers |= blockers >>> 4;
+                    blockers |= blockers >>> 8;
+                    blockers |= blockers >>> 16;
+                    blockers |= blockers >>> 32;
+                    ray &= ~(blockers >>> 1);
                 }
                 seen |= ray;
             }
@@ -1028,8 +1023,8 @@ public final class OpeningsCabinet {
 
         /** The square of the king of a side, or NONE. */
         int kingOf(boolean ofWhite) {
-            long kings = ofKind(KING) & ofSide(ofWhite);
-            return kings == 0 ? NONE : lowest(kings);
+            long kings = ofKind(KING) & (ofWhite ? white : ~white);
+            return kings == 0 ? NONE : Long.bitCount((kings & -kings) - 1);
         }
 
         /** The pieces of a side that attack a square, if just the squares told are occupied. */
