@@ -23,6 +23,10 @@ public final class DepthTest {
     private static final Map<String, Integer> DEPTHS = new HashMap<>();
 
     public static void main(String[] args) throws URISyntaxException {
+        if (ToolProvider.findFirst("javap").isEmpty()) {
+            System.out.println("DepthTest: without javap nothing can be looked at");
+            return;
+        }
         List<Class<?>> all = new ArrayList<>(List.of(OpeningsCabinet.class.getDeclaredClasses()));
         all.add(OpeningsCabinet.class);
         for (Class<?> type : all) {

@@ -227,5 +227,11 @@ public final class PositionTest {
         x.newBoard(4, 8);
         Check.same("the last file of four", x.isOpenFile(3), true);
         Check.refuses("file 4 of four", INDEX, () -> x.isOpenFile(4));
+        // Pawns count in improper positions too, on the first and the last rank.
+        x.put(0, 6);
+        x.put(30, 12);
+        Check.same("a pawn on a1", x.isOpenFile(0), false);
+        Check.same("no pawn on the file b", x.isOpenFile(1), true);
+        Check.same("a pawn on c8", x.isOpenFile(2), false);
     }
 }
