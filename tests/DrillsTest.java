@@ -7,7 +7,6 @@ public final class DrillsTest {
         Check.refuses("answer to nothing", nothing, () -> x.answer(true));
         x.addGame(1, 0, 1900, 1);
         Check.refuses("the shelf 1 is not drilled", nothing, x::asked);
-        // The refused answers were not counted: the due number becomes 1 + 2.
         x.addGame(0, 0, 1900, 1);
         x.addGame(0, 0, 1900, 1);
         x.addGame(0, 0, 1900, 1);

@@ -67,7 +67,7 @@ public final class SetUpTest {
         Check.same("the moves in variations are kept", x.variationMoves(), 1);
         Check.same("proper", x.isProper(), false);
         Check.refuses("takeBack", STATE, x::takeBack);
-        // The count of the drill is 0 again: a right answer makes the due numbers 3, 4 and 7.
+        // The drill begins anew: both games are asked once, then the first one again.
         Check.paper(x, "4k3/8/8/4K3 w - -");
         x.addGame(0, 0, 1900, 10);
         x.addGame(0, 0, 1900, 10);

@@ -1,7 +1,11 @@
+import java.util.List;
 import java.util.concurrent.Callable;
 
 /** What the tests share: they compare answers, and put texts into a cabinet and take them out. */
 final class Check {
+    /** The letters of the pieces, by their numbers. */
+    static final String PIECES = ".KQRBNPkqrbnp";
+
     private static int wrong = 0;
     private static int done = 0;
 
@@ -65,6 +69,40 @@ final class Check {
         return paper(x, paper);
     }
 
+    /** A cabinet of this size whose squares are put one by one, as no paper tells a position that is not proper. */
+    static OpeningsCabinet placed(String squares, boolean isWhite, int rights) {
+        String[] ranks = squares.split("/");
+        int files = 0;
+        for (char sign : ranks[0].toCharArray()) {
+            files += Character.isDigit(sign) ? sign - '0' : 1;
+        }
+        OpeningsCabinet x = new OpeningsCabinet();
+        x.newBoard(files, ranks.length);
+        for (int i = 0; i < ranks.length; i++) {
+            int file = 0;
+            for (char sign : ranks[i].toCharArray()) {
+                if (Character.isDigit(sign)) {
+                    file += sign - '0';
+                } else {
+                    x.put((ranks.length - 1 - i) * files + file, PIECES.indexOf(sign));
+                    file++;
+                }
+            }
+        }
+        x.setSide(isWhite, rights);
+        return x;
+    }
+
+    /** The name of a square on a board with so many files. */
+    static String name(int square, int files) {
+        return "" + (char) ('a' + square % files) + (char) ('1' + square / files);
+    }
+
+    /** The number of a square on a board with so many files. */
+    static int square(String name, int files) {
+        return (name.charAt(1) - '1') * files + name.charAt(0) - 'a';
+    }
+
     /** A cabinet in which the paper was read. */
     static OpeningsCabinet at(String paper) {
         OpeningsCabinet x = new OpeningsCabinet();
@@ -88,6 +126,11 @@ final class Check {
         return output(x, x.writeMove(move));
     }
 
+    /** The number of the move with these letters, -1 without one. */
+    static int number(OpeningsCabinet x, String letters) {
+        return List.of(allLetters(x).split(" ")).indexOf(letters);
+    }
+
     /** The letters of all moves, with blanks between. */
     static String allLetters(OpeningsCabinet x) {
         StringBuilder all = new StringBuilder();
@@ -105,6 +148,19 @@ final class Check {
             bytes.append((char) x.outputByte(i));
         }
         return bytes.toString();
+    }
+
+    /** Whether a text of moves has no fault. */
+    static boolean isSound(OpeningsCabinet x, String text) {
+        type(x, text);
+        return x.fault() == OpeningsCabinet.NONE;
+    }
+
+    /** So many full rounds of four moves of knights, from the usual first position back to it. */
+    static void rounds(OpeningsCabinet x, int number) {
+        for (int i = 0; i < number; i++) {
+            moves(x, "Nf3 Nf6 Ng1 Ng8");
+        }
     }
 
     /** Tells what was wrong, as the exit code too. */
