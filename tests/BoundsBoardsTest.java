@@ -48,7 +48,9 @@ public final class BoundsBoardsTest {
         }
     }
 
-    /** "numbered from 0 and named a, b, c and so on"; "1, 2, 3 and so on"; "rank times the number of files plus file". */
+    /**
+     * "numbered from 0 and named a, b, c and so on"; "1, 2, 3 and so on"; "rank times the number of files plus file".
+     */
     private static void namesOfSquares() {
         for (int files = 4; files <= 8; files++) {
             for (int ranks = 4; ranks <= 8; ranks++) {
@@ -414,7 +416,8 @@ public final class BoundsBoardsTest {
         }
         // Rooks of the other side, and kings that stand on another rank or on the first one of the other side.
         String[] others = {
-            "Rb2kb1R/8/8/8/8/8/8/rB2KB1r", "4k3/r6r/8/8/8/8/R6R/4K3", "r6r/4k3/8/8/8/8/4K3/R6R", "R3K2R/8/8/8/8/8/8/r3k2r",
+            "Rb2kb1R/8/8/8/8/8/8/rB2KB1r", "4k3/r6r/8/8/8/8/R6R/4K3", "r6r/4k3/8/8/8/8/4K3/R6R",
+            "R3K2R/8/8/8/8/8/8/r3k2r",
         };
         for (String squares : others) {
             proper(squares, true, 0, true);
@@ -449,8 +452,9 @@ public final class BoundsBoardsTest {
     private static void samePositions() {
         String[] papers = {
             HOME + " w KQkq -", HOME + " b KQkq -", HOME + " w Qkq -", HOME + " w Kkq -", HOME + " w KQq -",
-            HOME + " w KQk -", HOME + " w - -", "r3k2r/8/8/8/8/8/8/R2QK2R w KQkq -", "r3k2r/8/8/8/8/8/8/R2BK2R w KQkq -",
-            "r3k2r/8/8/8/8/8/8/R2bK2R w KQkq -", "r3k2r/8/8/8/8/8/N7/R3K2R w KQkq -", "r3k2r/8/8/8/8/8/1N6/R3K2R w KQkq -",
+            HOME + " w KQk -", HOME + " w - -", "r3k2r/8/8/8/8/8/8/R2QK2R w KQkq -",
+            "r3k2r/8/8/8/8/8/8/R2BK2R w KQkq -", "r3k2r/8/8/8/8/8/8/R2bK2R w KQkq -",
+            "r3k2r/8/8/8/8/8/N7/R3K2R w KQkq -", "r3k2r/8/8/8/8/8/1N6/R3K2R w KQkq -",
             "r3k2r/8/8/1pPp4/8/8/8/R3K2R w KQkq b6", "r3k2r/8/8/1pPp4/8/8/8/R3K2R w KQkq d6",
             "r3k2r/8/8/1pPp4/8/8/8/R3K2R w KQkq -",
         };

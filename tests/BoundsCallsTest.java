@@ -60,7 +60,11 @@ public final class BoundsCallsTest {
 
     private static void newBoards() {
         OpeningsCabinet x = new OpeningsCabinet();
-        times(MOST_CALLS, i -> Check.same("newBoard", x.newBoard(4 + i % 5, 4 + i / 5 % 5), (4 + i % 5) * (4 + i / 5 % 5)));
+        times(MOST_CALLS, i -> {
+            int files = 4 + i % 5;
+            int ranks = 4 + i / 5 % 5;
+            Check.same("newBoard", x.newBoard(files, ranks), files * ranks);
+        });
     }
 
     private static void dearCalls() {

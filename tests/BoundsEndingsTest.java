@@ -143,16 +143,18 @@ public final class BoundsEndingsTest {
         }
         Check.refuses("an empty board, all solved", STATE, x::endingValue);
         String[] papers = {
-            "k4/5/2K2/5/5 w - -", "k4/5/2K2/5/q4 w - -", "k4/5/2K2/5/2r2 w - -", "k4/5/2K2/5/2b2 w - -", "k4/5/2K2/5/2n2 w - -",
-            "k4/5/2K2/2P2/5 w - -", "k4/5/2K2/2p2/5 w - -", "k4/5/2K2/5/1R1R1 w - -", "k4/5/2K2/5/1R1r1 w - -",
-            "k4/5/2K2/3P1/1R3 w - -", "k4/5/2K2/3p1/1R3 w - -", "k4/5/2K2/5/1Q1B1 w - -", "k4/5/2K2/5/1N1B1 w - -",
+            "k4/5/2K2/5/5 w - -", "k4/5/2K2/5/q4 w - -", "k4/5/2K2/5/2r2 w - -", "k4/5/2K2/5/2b2 w - -",
+            "k4/5/2K2/5/2n2 w - -", "k4/5/2K2/2P2/5 w - -", "k4/5/2K2/2p2/5 w - -", "k4/5/2K2/5/1R1R1 w - -",
+            "k4/5/2K2/5/1R1r1 w - -", "k4/5/2K2/3P1/1R3 w - -", "k4/5/2K2/3p1/1R3 w - -", "k4/5/2K2/5/1Q1B1 w - -",
+            "k4/5/2K2/5/1N1B1 w - -",
         };
         for (String paper : papers) {
             Check.paper(x, paper);
             Check.refuses("value of " + paper, STATE, x::endingValue);
         }
         // Not proper: kings beside each other, Black's king attacked with White to move, no king, two kings, rights.
-        for (String squares : new String[] {"kK3/5/5/5/2R2", "k4/5/2K2/5/R4", "5/5/2K2/5/R4", "k4/5/5/5/R4", "k4/5/2K2/4K/1R3"}) {
+        for (String squares : new String[] {"kK3/5/5/5/2R2", "k4/5/2K2/5/R4", "5/5/2K2/5/R4",
+                "k4/5/5/5/R4", "k4/5/2K2/4K/1R3"}) {
             for (int square = 0; square < 25; square++) {
                 x.put(square, 0);
             }
@@ -196,7 +198,10 @@ public final class BoundsEndingsTest {
         Check.same("check, and the king goes away", value("1k2/4/K3/1R2 b - -", 3) > 0, true);
     }
 
-    /** The value follows from those behind all moves, in each third position of the queen and of the rook on 16 squares. */
+    /**
+     * The value follows from those behind all moves, in each third position of the queen and of the rook on 16
+     * squares.
+     */
     private static void valuesThatFollow() {
         for (int kind = 2; kind <= 3; kind++) {
             int greatest = NONE;

@@ -402,8 +402,8 @@ public final class BoundsGameTest {
     /** "with a greater depth the sum, over its moves, of the rows of depth - 1 behind them". */
     private static void sumsOfRows() {
         String[] papers = {
-            "k7/8/1K6/8/8/8/8/7R w - -", "8/2P4k/8/8/8/8/8/K7 w - -", "4k3/8/8/2pP4/8/8/8/4K3 w - c6", "k3/4/4/Q2K b - -",
-            "r3k2r/8/8/R3K2R b KQkq -", "8/8/8/8/8/8/5k1p/7K w - -",
+            "k7/8/1K6/8/8/8/8/7R w - -", "8/2P4k/8/8/8/8/8/K7 w - -", "4k3/8/8/2pP4/8/8/8/4K3 w - c6",
+            "k3/4/4/Q2K b - -", "r3k2r/8/8/R3K2R b KQkq -", "8/8/8/8/8/8/5k1p/7K w - -",
         };
         for (String paper : papers) {
             OpeningsCabinet x = Check.at(paper);
@@ -435,7 +435,9 @@ public final class BoundsGameTest {
         Check.same("the moves that were made", x.madeCount(), 80);
     }
 
-    /** "if the first position is not proper": no state, no rows; repetitions() and madeCount() are told all the same. */
+    /**
+     * "if the first position is not proper": no state, no rows; repetitions() and madeCount() are told all the same.
+     */
     private static void notProper() {
         OpeningsCabinet x = new OpeningsCabinet();
         x.newBoard(4, 4);

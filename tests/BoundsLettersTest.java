@@ -18,7 +18,7 @@ public final class BoundsLettersTest {
     /** The letters of the moves to a square, in the order of their numbers. */
     private static String to(String paper, String square) {
         OpeningsCabinet x = Check.at(paper);
-        int files = filesOf(paper);
+        int files = Check.files(paper);
         StringBuilder found = new StringBuilder();
         int number = x.moveCount();
         for (int move = 0; move < number; move++) {
@@ -30,19 +30,13 @@ public final class BoundsLettersTest {
         return found.toString();
     }
 
-    private static int filesOf(String paper) {
-        int files = 0;
-        for (char sign : paper.substring(0, paper.indexOf('/')).toCharArray()) {
-            files += Character.isDigit(sign) ? sign - '0' : 1;
-        }
-        return files;
-    }
-
     private static void told(String paper, String square, String due) {
         Check.same("moves to " + square + " in " + paper, to(paper, square), due);
     }
 
-    /** "if it takes, the name of the file from which it goes and x; ... if it becomes another piece, = and the letter" */
+    /**
+     * "if it takes, the name of the file from which it goes and x; ... if it becomes another piece, = and the letter"
+     */
     private static void pawns() {
         told("k7/8/8/3p4/8/2P1P3/8/K7 w - -", "c4", "c4");
         told("k7/8/8/3p4/2P1P3/8/8/K7 w - -", "d5", "cxd5 exd5");
@@ -190,11 +184,15 @@ public final class BoundsLettersTest {
         Check.refuses("the byte behind it", IndexOutOfBoundsException.class, () -> x.outputByte(letters.length()));
     }
 
-    /** Promise 62: "the letters of each move of the present position, read, are this move", in positions of many kinds. */
+    /**
+     * Promise 62: "the letters of each move of the present position, read, are this move", in positions of many
+     * kinds.
+     */
     private static void lettersThatAreRead() {
         String[] papers = {
-            "7k/8/1N3N2/8/1N3N2/8/8/K7 w - -", "7k/8/8/8/8/Q1p5/8/Q1Q4K w - -", "r3k2r/1P4P1/8/2pP4/8/8/8/R3K2R w KQkq c6",
-            "R6R/3Q4/1Q4Q1/4Q3/2Q4Q/Q4Q2/pp1Q4/kBNN1KB1 w - -", "k7/1Q6/1K6/8/8/8/8/8 b - -", "k3/4/4/3K w - -",
+            "7k/8/1N3N2/8/1N3N2/8/8/K7 w - -", "7k/8/8/8/8/Q1p5/8/Q1Q4K w - -",
+            "r3k2r/1P4P1/8/2pP4/8/8/8/R3K2R w KQkq c6", "R6R/3Q4/1Q4Q1/4Q3/2Q4Q/Q4Q2/pp1Q4/kBNN1KB1 w - -",
+            "k7/1Q6/1K6/8/8/8/8/8 b - -", "k3/4/4/3K w - -",
         };
         for (String paper : papers) {
             OpeningsCabinet x = Check.at(paper);

@@ -108,7 +108,8 @@ public final class BoundsMatesTest {
         for (String letters : new String[] {"Kc7", "Qb6", "Qb1", "Qg7", "Qg8+"}) {
             Check.moves(x, letters);
             int state = x.state();
-            keys.append(letters).append(state == OpeningsCabinet.STALE ? " stale " : " ").append(isLost(x)).append(", ");
+            keys.append(letters).append(state == OpeningsCabinet.STALE ? " stale " : " ").append(isLost(x))
+                    .append(", ");
             x.takeBack();
         }
         Check.same("keys", keys.toString(), "Kc7 stale false, Qb6 stale false, Qb1 true, Qg7 true, Qg8+ false, ");

@@ -46,7 +46,9 @@ public final class BoundsMovesTest {
         return found.toString();
     }
 
-    /** "one square forward ...; from its second rank also two squares forward, if ... the board has at least 6 ranks". */
+    /**
+     * "one square forward ...; from its second rank also two squares forward, if ... the board has at least 6 ranks".
+     */
     private static void stepsOfPawns() {
         for (int ranks = 4; ranks <= 8; ranks++) {
             for (int file = 0; file < 8; file++) {
@@ -237,7 +239,10 @@ public final class BoundsMovesTest {
         return x.passingSquare();
     }
 
-    /** "the passing square is the one that was passed": of both sides, on 6, 7 and 8 ranks, with a rival on either side. */
+    /**
+     * "the passing square is the one that was passed": of both sides, on 6, 7 and 8 ranks, with a rival on either
+     * side.
+     */
     private static void passingSquaresBehindSteps() {
         for (int ranks = 6; ranks <= 8; ranks++) {
             String far = "8/".repeat(ranks - 6);
@@ -340,7 +345,8 @@ public final class BoundsMovesTest {
         taken("4k3/1B6/8/2pP4/8/8/8/4K3 w - c6", "Bc6+", "4k3/8/2B5/2pP4/8/8/8/4K3 b - -");
         taken("4k3/8/R7/2pP4/8/8/8/4K3 w - c6", "Rc6", "4k3/8/2R5/2pP4/8/8/8/4K3 b - -");
         taken("4k3/8/1K6/2pP4/8/8/8/8 w - c6", "Kc6", "4k3/8/2K5/2pP4/8/8/8/8 b - -");
-        Check.same("one pawn beside, another one in front", goals(Check.at("4k3/8/8/1PpP4/8/8/8/4K3 w - c6"), 33, 8), "b6 c6");
+        String two = "4k3/8/8/1PpP4/8/8/8/4K3 w - c6";
+        Check.same("one pawn beside, another one in front", goals(Check.at(two), 33, 8), "b6 c6");
     }
 
     /** Which castlings there are: s short, l long. */
@@ -425,14 +431,18 @@ public final class BoundsMovesTest {
     /** A rival piece so many ranks in front of the first rank: may the sides castle past what it attacks? */
     private static void attackedHome(int ranks, int file, int kind, int distance, boolean isLong, boolean isShort) {
         String due = (isLong ? "" : "l") + (isShort ? "" : "s");
-        String what = " past " + kind + " on the file " + file + ", " + distance + " ranks away, on " + ranks + " ranks";
+        String what = " past " + kind + " on the file " + file + ", " + distance + " ranks away, on " + ranks
+                + " ranks";
         OpeningsCabinet x = atHome(ranks, true, 3, distance * 8 + file, kind + 6);
         Check.same("White" + what, castlings(x, ranks), due);
         OpeningsCabinet y = atHome(ranks, false, 12, (ranks - 1 - distance) * 8 + file, kind);
         Check.same("Black" + what, castlings(y, ranks), due);
     }
 
-    /** "the king goes to the file g, the rook from the file h to the file f", "... c, ... from the file a to the file d". */
+    /**
+     * "the king goes to the file g, the rook from the file h to the file f", "... c, ... from the file a to the file
+     * d".
+     */
     private static void castledPieces() {
         for (int ranks = 4; ranks <= 8; ranks++) {
             String middle = "/8".repeat(ranks - 2) + "/";
@@ -458,7 +468,8 @@ public final class BoundsMovesTest {
             for (String move : new String[] {"Kd1", "Kf1", "Kd2", "Ke2", "Kf2", "O-O", "O-O-O"}) {
                 lost(home + "w KQkq -", move, 12);
             }
-            for (String move : new String[] {"Kd" + ranks, "Kf" + ranks, "Kd" + (ranks - 1), "Ke" + (ranks - 1), "O-O-O", "O-O"}) {
+            int second = ranks - 1;
+            for (String move : new String[] {"Kd" + ranks, "Kf" + ranks, "Kd" + second, "Ke" + second, "O-O-O", "O-O"}) {
                 lost(home + "b KQkq -", move, 3);
             }
             for (String move : new String[] {"Rb1", "Rc1", "Rd1", "Ra2", "Ra" + (ranks - 1)}) {
@@ -527,8 +538,9 @@ public final class BoundsMovesTest {
             }
         }
         // A castling stands among the moves of the king.
-        Check.same("moves of the king", goals(Check.at("r3k2r/8/8/8/8/8/8/R3K2R w KQkq -"), 4, 8), "c1 d1 f1 g1 d2 e2 f2");
-        Check.same("moves of Black's king", goals(Check.at("r3k2r/8/8/8/8/8/8/R3K2R b KQkq -"), 60, 8), "d7 e7 f7 c8 d8 f8 g8");
+        String home = "r3k2r/8/8/8/8/8/8/R3K2R ";
+        Check.same("moves of the king", goals(Check.at(home + "w KQkq -"), 4, 8), "c1 d1 f1 g1 d2 e2 f2");
+        Check.same("moves of Black's king", goals(Check.at(home + "b KQkq -"), 60, 8), "d7 e7 f7 c8 d8 f8 g8");
     }
 
     /** No move at all, one, and the most that are known. */

@@ -48,7 +48,8 @@ public final class BoundsPapersTest {
     /** "Returns the number of pieces": the least there can be, and a full board. */
     private static void numbersOfPieces() {
         taken(new OpeningsCabinet(), "4k3/8/8/8/8/8/8/4K3 w - -", true);
-        taken(new OpeningsCabinet(), "rnbqkbnr/pppppppp/nnnnnnnn/nnnnnnnn/NNNNNNNN/NNNNNNNN/PPPPPPPP/RNBQKBNR b KQkq -", true);
+        taken(new OpeningsCabinet(),
+                "rnbqkbnr/pppppppp/nnnnnnnn/nnnnnnnn/NNNNNNNN/NNNNNNNN/PPPPPPPP/RNBQKBNR b KQkq -", true);
         OpeningsCabinet x = new OpeningsCabinet();
         x.newBoard(4, 4);
         taken(x, "kbbb/bbbb/BBBB/BBBK w - -", true);
@@ -75,8 +76,9 @@ public final class BoundsPapersTest {
         OpeningsCabinet x = new OpeningsCabinet();
         taken(x, "4k3/8/8/8/8/8/8/K7 w - -", true);
         for (String rank : new String[] {
-            "17", "71", "26", "35", "44", "53", "62", "224", "11111111", "08", "80", "9", "0", "", "7", "1", "6P", "8P", "P8",
-            "PPPPPPPPP", "PPPPPPP", "7PP", "P61", "P16", "P43", "33P1", "P07", "3P33", "3P5", "4P4", "5P3", "8/", "/", "-", " 8",
+            "17", "71", "26", "35", "44", "53", "62", "224", "11111111", "08", "80", "9", "0", "", "7", "1", "6P", "8P",
+            "P8", "PPPPPPPPP", "PPPPPPP", "7PP", "P61", "P16", "P43", "33P1", "P07", "3P33", "3P5", "4P4", "5P3", "8/",
+            "/", "-", " 8",
         }) {
             taken(x, "4k3/8/8/8/" + rank + "/8/8/K7 w - -", false);
             taken(x, "4k3/" + rank + "/8/8/8/8/8/K7 w - -", false);
@@ -128,8 +130,8 @@ public final class BoundsPapersTest {
         }
         OpeningsCabinet x = new OpeningsCabinet();
         for (String rights : new String[] {
-            "", "--", "QK", "qk", "kK", "kQ", "qK", "qQ", "kqKQ", "KkQq", "KK", "QQ", "kk", "qq", "KQkqK", "KQkq-", "-K", "K-",
-            "KQkqKQkq", "0", "1", "KQ kq", "A", "w", " ", "K ", " K", "KQKQ", "kqkq", "KQkk", "QQkq",
+            "", "--", "QK", "qk", "kK", "kQ", "qK", "qQ", "kqKQ", "KkQq", "KK", "QQ", "kk", "qq", "KQkqK", "KQkq-",
+            "-K", "K-", "KQkqKQkq", "0", "1", "KQ kq", "A", "w", " ", "K ", " K", "KQKQ", "kqkq", "KQkk", "QQkq",
         }) {
             taken(x, "r3k2r/8/8/8/8/8/8/R3K2R w " + rights + " -", false);
         }
@@ -144,9 +146,10 @@ public final class BoundsPapersTest {
         taken(x, squares + " b - -", true);
         Check.same("Black is to move", x.isWhiteToMove(), false);
         for (String rest : new String[] {
-            "", " ", "w", " w", " w ", " w -", " w - ", "w - -", " w-- ", " w --", " w- -", " w - --", " w - - ", " W - -", " B - -",
-            " a - -", " - - -", " wb - -", " bw - -", "  - -", "  w - -", " w  - -", " w -  -", " w - e", " w - 3", " w - e3",
-            " w - i3", " w - e9", " w - e0", " w - `3", " w - 3e", " w - E3", " w - e33", " w - -3", " w - e-", "/ w - -", " w/-/-",
+            "", " ", "w", " w", " w ", " w -", " w - ", "w - -", " w-- ", " w --", " w- -", " w - --", " w - - ",
+            " W - -", " B - -", " a - -", " - - -", " wb - -", " bw - -", "  - -", "  w - -", " w  - -", " w -  -",
+            " w - e", " w - 3", " w - e3", " w - i3", " w - e9", " w - e0", " w - `3", " w - 3e", " w - E3", " w - e33",
+            " w - -3", " w - e-", "/ w - -", " w/-/-",
         }) {
             taken(x, squares + rest, false);
         }
@@ -350,8 +353,8 @@ public final class BoundsPapersTest {
     private static void refusedPapers() {
         String paper = "r3k2r/8/8/2pP4/8/8/8/R3K2R w KQkq c6";
         String[] wrong = {
-            "", "4k3/8/8/8/8/8/8/4K3 b - e3", "4k3/8/8/8/8/8/8/4K3 b - - ", "4k3/8/8/8/8/8/8/4K3 b K -", "8/8/8/8/8/8/8/8 b - -",
-            "4k3/8/8/8/8/8/4q3/4K3 b - -",
+            "", "4k3/8/8/8/8/8/8/4K3 b - e3", "4k3/8/8/8/8/8/8/4K3 b - - ", "4k3/8/8/8/8/8/8/4K3 b K -",
+            "8/8/8/8/8/8/8/8 b - -", "4k3/8/8/8/8/8/4q3/4K3 b - -",
         };
         for (String other : wrong) {
             OpeningsCabinet x = Check.at(paper);

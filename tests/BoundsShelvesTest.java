@@ -368,7 +368,8 @@ public final class BoundsShelvesTest {
         StringBuilder all = new StringBuilder();
         int number = x.continuations(shelf);
         for (int i = 0; i < number; i++) {
-            all.append(Check.letters(x, x.continuationAt(shelf, i))).append(':').append(x.gamesOf(shelf, i)).append(' ');
+            all.append(Check.letters(x, x.continuationAt(shelf, i))).append(':').append(x.gamesOf(shelf, i))
+                    .append(' ');
         }
         for (int index : new int[] {Integer.MIN_VALUE, -1, number, number + 1, Integer.MAX_VALUE}) {
             Check.refuses("continuationAt " + index, INDEX, () -> x.continuationAt(shelf, index));
@@ -393,8 +394,10 @@ public final class BoundsShelvesTest {
     /** "numbered from 0 in the order of their letters (as texts by their bytes)". */
     private static void orderOfContinuations() {
         OpeningsCabinet x = Check.at("7k/P5p1/1N3N2/8/1N3N2/3p4/4P3/4K3 w - -");
-        add(x, 0, "exd3", "e3", "a8=R#", "Nfxd3", "e4", "a8=N", "Nf6d5", "Nc2", "a8=Q#", "Nb6d5", "Nbxd3", "a8=B", "Nb4d5", "Nf4d5");
-        Check.same("with knights and pawns", continuations(x, 0), "Nb4d5:1 Nb6d5:1 Nbxd3:1 Nc2:1 Nf4d5:1 Nf6d5:1 Nfxd3:1 "
+        add(x, 0, "exd3", "e3", "a8=R#", "Nfxd3", "e4", "a8=N", "Nf6d5", "Nc2",
+                "a8=Q#", "Nb6d5", "Nbxd3", "a8=B", "Nb4d5", "Nf4d5");
+        Check.same("with knights and pawns", continuations(x, 0),
+                "Nb4d5:1 Nb6d5:1 Nbxd3:1 Nc2:1 Nf4d5:1 Nf6d5:1 Nfxd3:1 "
                 + "a8=B:1 a8=N:1 a8=Q#:1 a8=R#:1 e3:1 e4:1 exd3:1 ");
         OpeningsCabinet y = Check.at("4k3/8/8/8/8/8/6P1/R3K2R w KQ -");
         add(y, 0, "g4", "O-O-O", "Rh8+", "O-O", "Rd1", "Kf1", "Ra8+", "Rb1", "g3");

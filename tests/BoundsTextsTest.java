@@ -143,14 +143,14 @@ public final class BoundsTextsTest {
     private static void blanks() {
         for (String text : new String[] {
             "e4 e5", "e4  e5", "e4     e5     ", " e4", "1. e4", "1.   e4", "e4 *", "e4    *", "e4(d4)e5", "e4 (d4) e5",
-            "e4  (  d4  )  e5", "e4{a}e5", "e4 { a } e5", "e4(d4)(c4)e5", "e4{a}{b}e5", "e4(d4{a}(c4)d5)e5", "e4(d4)*", "e4{a}1-0",
-            "e4(1. d4)1... e5", "e4{a}1... e5", "e4 (d4)1... e5 0-1", "1. e4(1. d4 1... d5)*",
+            "e4  (  d4  )  e5", "e4{a}e5", "e4 { a } e5", "e4(d4)(c4)e5", "e4{a}{b}e5", "e4(d4{a}(c4)d5)e5", "e4(d4)*",
+            "e4{a}1-0", "e4(1. d4)1... e5", "e4{a}1... e5", "e4 (d4)1... e5 0-1", "1. e4(1. d4 1... d5)*",
         }) {
             fault(text);
         }
         for (String text : new String[] {
-            "^e4e5", "^1.e4", "^e4*", "^e41-0", "1. ^e4e5", "e4 ^e5*", "e4 ^1...e5", "^1.1. e4", "^*1-0", "e4(^d4d5)", "e4{a}^e5Nf3",
-            "e4 ^e5Nf3 Nc6", "e4 1... ^e5*", "^e41. e5",
+            "^e4e5", "^1.e4", "^e4*", "^e41-0", "1. ^e4e5", "e4 ^e5*", "e4 ^1...e5", "^1.1. e4", "^*1-0", "e4(^d4d5)",
+            "e4{a}^e5Nf3", "e4 ^e5Nf3 Nc6", "e4 1... ^e5*", "^e41. e5",
         }) {
             fault(text);
         }
@@ -191,9 +191,9 @@ public final class BoundsTextsTest {
             fault("e4 e5 " + number + " Nf3 " + number + " Nc6");
         }
         for (String number : new String[] {
-            ".", "...", "1", "12", "123", "1234.", "0000.", "1234...", "1..", "1....", "1.....", "1......", "12..", "123..", "123....",
-            ".1", ".1.", "1.1", "1.1.", "1..1.", "1.2...", "a.", "1a.", "a1.", "1.a", "-1.", "+1.", "1,", "1:", "1;", "/.", ":.", "1/.",
-            "1.,", "1.-", "1./", "1-.", "..", "1.0", "01",
+            ".", "...", "1", "12", "123", "1234.", "0000.", "1234...", "1..", "1....", "1.....", "1......", "12..",
+            "123..", "123....", ".1", ".1.", "1.1", "1.1.", "1..1.", "1.2...", "a.", "1a.", "a1.", "1.a", "-1.", "+1.",
+            "1,", "1:", "1;", "/.", ":.", "1/.", "1.,", "1.-", "1./", "1-.", "..", "1.0", "01",
         }) {
             fault("^" + number + " e4");
             fault("e4 ^" + number + " e5");
@@ -237,8 +237,9 @@ public final class BoundsTextsTest {
             fault("e4 ^." + result);
         }
         for (String result : new String[] {
-            "1", "0", "1-", "-0", "0-", "-1", "1-1", "0-0", "1-2", "2-0", "1-00", "11-0", "1/2", "1/2-", "1/2-1", "1/2-1/", "1/2-1/3",
-            "1/2-1/2-", "0/2-1/2", "2/2-1/2", "1/2+1/2", "1/2-0", "**", "+", ")", "1_0", "1=0", "O-1", "1-O",
+            "1", "0", "1-", "-0", "0-", "-1", "1-1", "0-0", "1-2", "2-0", "1-00", "11-0", "1/2", "1/2-", "1/2-1",
+            "1/2-1/", "1/2-1/3", "1/2-1/2-", "0/2-1/2", "2/2-1/2", "1/2+1/2", "1/2-0", "**", "+", ")", "1_0", "1=0",
+            "O-1", "1-O",
         }) {
             fault("^" + result);
             fault("e4 ^" + result);
@@ -332,8 +333,8 @@ public final class BoundsTextsTest {
         fault("f3 e5 g4 Qh4# {a} (Qf6) 0-1");
         OpeningsCabinet x = Check.at("1r5k/P5pp/8/8/8/8/8/K7 w - -");
         for (String text : new String[] {
-            "^a8", "a8=Q", "a8=R", "a8=B", "a8=N", "^a8=K", "^a8=P", "^a8=q", "^a8Q", "^a8=", "^axb8", "axb8=Q#", "axb8=Q", "^ab8=Q",
-            "^a7xb8=Q", "axb8=N",
+            "^a8", "a8=Q", "a8=R", "a8=B", "a8=N", "^a8=K", "^a8=P", "^a8=q", "^a8Q", "^a8=", "^axb8", "axb8=Q#",
+            "axb8=Q", "^ab8=Q", "^a7xb8=Q", "axb8=N",
         }) {
             fault(x, text);
         }
@@ -342,7 +343,8 @@ public final class BoundsTextsTest {
             fault(y, text);
         }
         OpeningsCabinet z = Check.at("r3k2r/8/8/8/8/8/8/R3K2R w KQkq -");
-        for (String text : new String[] {"O-O", "O-O-O", "^o-o", "^0-0", "^0-0-0", "^OO", "^O-", "^O-O-", "^O-O-O-O", "^Kg1", "^Kc1"}) {
+        for (String text : new String[] {"O-O", "O-O-O", "^o-o", "^0-0", "^0-0-0",
+                "^OO", "^O-", "^O-O-", "^O-O-O-O", "^Kg1", "^Kc1"}) {
             fault(z, text);
         }
     }
@@ -488,7 +490,10 @@ public final class BoundsTextsTest {
         return x;
     }
 
-    /** "no more moves than the game has room for (the move that is one too many cannot stand, a number ahead of it can)". */
+    /**
+     * "no more moves than the game has room for (the move that is one too many cannot stand, a number ahead of it
+     * can)".
+     */
     private static void room() {
         OpeningsCabinet full = withMoves(80);
         fault(full, "");

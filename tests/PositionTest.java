@@ -93,27 +93,8 @@ public final class PositionTest {
         isProper("r3k2r/8/8/8/8/8/8/R3K2R", false, 10, true);
     }
 
-    /** Puts the pieces one by one, as an improper position has no paper that can be read. */
     private static void isProper(String squares, boolean isWhite, int rights, boolean due) {
-        OpeningsCabinet x = new OpeningsCabinet();
-        String[] rows = squares.split("/");
-        int files = 0;
-        for (char sign : rows[0].toCharArray()) {
-            files += Character.isDigit(sign) ? sign - '0' : 1;
-        }
-        x.newBoard(files, rows.length);
-        for (int i = 0; i < rows.length; i++) {
-            int file = 0;
-            for (char sign : rows[i].toCharArray()) {
-                if (Character.isDigit(sign)) {
-                    file += sign - '0';
-                } else {
-                    x.put((rows.length - 1 - i) * files + file, " KQRBNPkqrbnp".indexOf(sign));
-                    file++;
-                }
-            }
-        }
-        x.setSide(isWhite, rights);
+        OpeningsCabinet x = Check.placed(squares, isWhite, rights);
         Check.same("proper " + squares + " " + isWhite + " " + rights, x.isProper(), due);
         if (!due) {
             Check.refuses("moves of " + squares, STATE, x::moveCount);

@@ -17,8 +17,9 @@ public final class RefusalsTest {
     /** What is asked of a cabinet; each of these with a cabinet of its own, as some of them change it. */
     private static final List<Function<OpeningsCabinet, String>> QUESTIONS = List.of(
             RefusalsTest::output, RefusalsTest::position, RefusalsTest::movesTakenBack, RefusalsTest::textOfMoves,
-            RefusalsTest::textOfPaper, x -> "" + x.clearText(), x -> shelf(x, 0), x -> shelf(x, 1), RefusalsTest::merged,
-            RefusalsTest::drill, RefusalsTest::pattern, RefusalsTest::endings, RefusalsTest::newGame);
+            RefusalsTest::textOfPaper, x -> "" + x.clearText(), x -> shelf(x, 0), x -> shelf(x, 1),
+            RefusalsTest::merged, RefusalsTest::drill, RefusalsTest::pattern, RefusalsTest::endings,
+            RefusalsTest::newGame);
 
     public static void main(String[] args) {
         afterMoves();
@@ -49,7 +50,8 @@ public final class RefusalsTest {
     }
 
     private static String position(OpeningsCabinet x) {
-        return Check.paper(x) + " " + x.madeCount() + " " + x.repetitions() + " " + x.variationMoves() + " " + x.isProper()
+        return Check.paper(x) + " " + x.madeCount() + " " + x.repetitions() + " " + x.variationMoves() + " "
+                + x.isProper()
                 + " " + Check.thrownBy(x::state) + " " + Check.thrownBy(x::moveCount) + " " + x.errors();
     }
 
@@ -62,7 +64,8 @@ public final class RefusalsTest {
     }
 
     private static String textOfMoves(OpeningsCabinet x) {
-        return Check.thrownBy(x::fault) + " " + Check.thrownBy(x::readMoves) + " " + x.variationMoves() + " " + position(x);
+        return Check.thrownBy(x::fault) + " " + Check.thrownBy(x::readMoves) + " " + x.variationMoves() + " "
+                + position(x);
     }
 
     private static String textOfPaper(OpeningsCabinet x) {
@@ -79,7 +82,8 @@ public final class RefusalsTest {
         for (int back = 0; back < 3; back++) {
             all.append(x.count(shelf)).append(' ').append(x.countYears(shelf, 1900, 1990)).append(' ');
             all.append(x.countWith(shelf, 0)).append(' ').append(x.countWith(shelf, 2)).append(' ');
-            all.append(Check.thrownBy(() -> x.meanStrength(shelf, false))).append(' ').append(x.shareWon(shelf)).append(' ');
+            all.append(Check.thrownBy(() -> x.meanStrength(shelf, false))).append(' ').append(x.shareWon(shelf))
+                    .append(' ');
             all.append(Check.thrownBy(() -> x.continuations(shelf))).append(' ');
             all.append(Check.thrownBy(() -> x.continuationAt(shelf, 0))).append(' ');
             all.append(Check.thrownBy(x::takeBack)).append(' ');
@@ -95,7 +99,8 @@ public final class RefusalsTest {
         StringBuilder all = new StringBuilder();
         for (int i = 0; i < 24; i++) {
             boolean isRight = i % 3 != 1;
-            all.append(Check.thrownBy(x::asked)).append(' ').append(Check.thrownBy(() -> x.answer(isRight))).append(' ');
+            all.append(Check.thrownBy(x::asked)).append(' ').append(Check.thrownBy(() -> x.answer(isRight)))
+                    .append(' ');
         }
         return all.toString();
     }
@@ -120,7 +125,8 @@ public final class RefusalsTest {
     }
 
     private static String newGame(OpeningsCabinet x) {
-        return x.startHere() + " " + x.repetitions() + " " + Check.thrownBy(() -> x.addGame(0, 1, 1950, 5)) + " " + x.gameCount(0)
+        return x.startHere() + " " + x.repetitions() + " " + Check.thrownBy(() -> x.addGame(0, 1, 1950, 5)) + " "
+                + x.gameCount(0)
                 + " " + Check.thrownBy(() -> x.type(0x20)) + " " + position(x);
     }
 
@@ -201,7 +207,8 @@ public final class RefusalsTest {
             ahead.accept(y);
             Check.refuses(what, due, () -> call.apply(x));
             inItsPlace.accept(y);
-            Check.same("question " + i + " behind the refused " + what, QUESTIONS.get(i).apply(x), QUESTIONS.get(i).apply(y));
+            Check.same("question " + i + " behind the refused " + what, QUESTIONS.get(i).apply(x),
+                    QUESTIONS.get(i).apply(y));
         }
     }
 
@@ -330,7 +337,8 @@ public final class RefusalsTest {
         refused("readPaper of moves", RefusalsTest::rich, ARGUMENT, OpeningsCabinet::readPaper, clear);
         refused("readPaper of no paper", RefusalsTest::improper, ARGUMENT, OpeningsCabinet::readPaper, clear);
         refused("readPaper of a full text", RefusalsTest::typed, ARGUMENT, OpeningsCabinet::readPaper, clear);
-        refused("readMoves without a proper position", RefusalsTest::improper, STATE, OpeningsCabinet::readMoves, clear);
+        refused("readMoves without a proper position", RefusalsTest::improper, STATE, OpeningsCabinet::readMoves,
+                clear);
         refused("readMoves of a paper", RefusalsTest::small, ARGUMENT, OpeningsCabinet::readMoves, clear);
         Consumer<OpeningsCabinet> faulty = x -> {
             rich(x);

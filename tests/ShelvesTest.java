@@ -18,7 +18,6 @@ public final class ShelvesTest {
         newPositions();
         merging();
         mergingWithoutRoom();
-        noShelf();
         notProper();
         Check.end("ShelvesTest");
     }
@@ -328,28 +327,6 @@ public final class ShelvesTest {
         add(x, 1, "e3", 0, 1900, 1);
         Check.same("no room", x.merge(), 0);
         Check.same("gone", x.gameCount(1), 0);
-    }
-
-    private static void noShelf() {
-        OpeningsCabinet x = new OpeningsCabinet();
-        for (int shelf : new int[] {-1, 2, Integer.MIN_VALUE, Integer.MAX_VALUE}) {
-            Check.refuses("gameCount", INDEX, () -> x.gameCount(shelf));
-            Check.refuses("gameLength", INDEX, () -> x.gameLength(shelf, 0));
-            Check.refuses("positionCount", INDEX, () -> x.positionCount(shelf));
-            Check.refuses("count", INDEX, () -> x.count(shelf));
-            Check.refuses("countWith", INDEX, () -> x.countWith(shelf, 9));
-            Check.refuses("countYears", INDEX, () -> x.countYears(shelf, 9, 1));
-            Check.refuses("meanStrength", INDEX, () -> x.meanStrength(shelf, true));
-            Check.refuses("continuations", INDEX, () -> x.continuations(shelf));
-            Check.refuses("continuationAt", INDEX, () -> x.continuationAt(shelf, 0));
-            Check.refuses("gamesOf", INDEX, () -> x.gamesOf(shelf, 0));
-            Check.refuses("playMain", INDEX, () -> x.playMain(shelf, 1));
-            Check.refuses("firstNew", INDEX, () -> x.firstNew(shelf, 0));
-            Check.refuses("meanLength", INDEX, () -> x.meanLength(shelf));
-            Check.refuses("shareWon", INDEX, () -> x.shareWon(shelf));
-        }
-        Check.refuses("gameLength of nothing", INDEX, () -> x.gameLength(0, 0));
-        Check.refuses("firstNew of nothing", INDEX, () -> x.firstNew(0, 0));
     }
 
     private static void notProper() {

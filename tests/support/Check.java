@@ -60,22 +60,23 @@ final class Check {
 
     /** Takes a new board of the size of the paper and reads it. */
     static int board(OpeningsCabinet x, String paper) {
-        String[] ranks = paper.substring(0, paper.indexOf(' ')).split("/");
+        x.newBoard(files(paper), paper.substring(0, paper.indexOf(' ')).split("/").length);
+        return paper(x, paper);
+    }
+
+    /** The number of the files of a paper, by its first rank. */
+    static int files(String paper) {
         int files = 0;
-        for (char sign : ranks[0].toCharArray()) {
+        for (char sign : paper.substring(0, paper.indexOf('/')).toCharArray()) {
             files += Character.isDigit(sign) ? sign - '0' : 1;
         }
-        x.newBoard(files, ranks.length);
-        return paper(x, paper);
+        return files;
     }
 
     /** A cabinet of this size whose squares are put one by one, as no paper tells a position that is not proper. */
     static OpeningsCabinet placed(String squares, boolean isWhite, int rights) {
         String[] ranks = squares.split("/");
-        int files = 0;
-        for (char sign : ranks[0].toCharArray()) {
-            files += Character.isDigit(sign) ? sign - '0' : 1;
-        }
+        int files = files(squares);
         OpeningsCabinet x = new OpeningsCabinet();
         x.newBoard(files, ranks.length);
         for (int i = 0; i < ranks.length; i++) {
